@@ -203,6 +203,9 @@ public final class PromiseTests {
     faulty(2, "1;", 1, 0);
     faulty(2, " trea 1;", 1, 1);
     faulty(2, "treads 1;", 1, 0);
+    faulty(2, "treadz 1;", 1, 0);
+    faulty(2, "atread 1;", 1, 0);
+    faulty(2, "tread 1;tread 090;", 1, 14);
     faulty(2, "Tread 1;", 1, 0);
     faulty(2, "tread\t1;", 1, 5);
     faulty(2, "tread 1;#", 1, 8);
@@ -300,6 +303,11 @@ public final class PromiseTests {
     due("less", z.played(0, 0, 0, 2, 0), 2);
     due("rested", z.played(0, 0, 0, 2, 1), 2);
     due("rested", z.played(0, 0, 0, 11, 1), 3);
+    // Stolen from two that had just enough, not from one that never had.
+    BellowsChoir s = choir("bellows 5 0 0;pipe 1 0 0 0;pipe 5 0 0 0;pipe 6 0 0 0;pipe 5 0 0 0;", "note 0 0 1;note 1 0 1;note 2 0 1;note 3 0 1;", "");
+    due("sounds", s.played(0, 0, 0, 0, 2), 1);
+    due("silent", s.played(0, 0, 0, 0, 3), 14);
+    due("stolen", s.played(0, 0, 0, 0, 4), 10);
   }
 
   static void p10() {
@@ -329,6 +337,8 @@ public final class PromiseTests {
     tell(x, 1, 0, "note 0 10 1;note 1 11 1;note 5 9 1;");
     due("well as it is", x.shift(0, 0, 0, 0, NONE), 0);
     due("one that is not there", x.shift(0, 0, 0, 0, 2), 0);
+    tell(x, 1, 0, "note 2 0 1;note 0 10 1;note 1 11 1;");
+    due("the next that is not there", x.shift(0, 0, 0, 0, 0), 0);
     tell(x, 1, 0, "");
     due("no notes", x.shift(0, 0, 0, 0, NONE), 0);
     due("no note 0", x.shift(0, 0, 0, 0, 0), NONE);
@@ -342,6 +352,9 @@ public final class PromiseTests {
     tell(x, 1, 0, "note 0 0 1;note 1 0 3;note 4 0 6;");
     due("by length", x.cut(0, 0, 0, false), 6);
     due("by length, which", x.cut(0, 0, 0, true), 1);
+    tell(x, 1, 0, "note 2 0 6;note 0 0 1;note 1 0 3;");
+    due("of one that is not there", x.cut(0, 0, 0, false), 6);
+    due("of one that is not there, which", x.cut(0, 0, 0, true), 2);
     tell(x, 0, 0, "bellows 4 0 0;pipe 4 3 0 0;pipe 4 3 0 0;");
     tell(x, 1, 0, "note 0 0 1;note 1 0 1;");
     due("either", x.cut(0, 0, 0, false), 3);
@@ -442,6 +455,12 @@ public final class PromiseTests {
     due("can but tread", x.duel(0, 3, true), 6);
     tell(x, 0, 0, "pipe 1 0 0 0;");
     due("least that is best", x.duel(0, 1, true), 0);
+    tell(x, 0, 0, "bellows 5 0 1;pipe 5 3 0 0;");
+    due("just enough", x.duel(0, 1, true), 0);
+    due("just enough", x.duel(0, 1, false), 3);
+    // Of size 5, by 0 first 1 has no breath left but what a tread fills: never more than 5.
+    tell(x, 0, 0, "bellows 5 0 9;pipe 4 1 0 0;pipe 6 9 0 0;");
+    due("not above size", x.duel(0, 3, false), 1);
   }
 
   static void p17() {
@@ -495,6 +514,13 @@ public final class PromiseTests {
     due("all, sure", x.fits(0, 0, 1, 1), 0);
     due("all, next", x.fits(0, 0, 1, 2), 1);
     due("all, last", x.fits(0, 0, 1, 4105), 4095);
+    // On beat 1 one sounds by 1 of 2 (if 1 is trodden), on beat 3 by 1 of 4 (2 and 3): none by 3 of 4 is worse.
+    tell(x, 0, 0, "bellows 4 1 2;strength 12;pipe 3 1 0 0;pipe 2 1 0 0;pipe 1 1 0 0;");
+    tell(x, 1, 0, "note 0 0 1;note 2 1 1;note 1 3 1;");
+    due("next, not the one that is mostly silent", x.fits(0, 0, 1, 2), 1);
+    tell(x, 0, 0, SMALL);
+    tell(x, 1, 0, LONG);
+    due("next as ahead", x.fits(0, 0, 1, 2), 1);
     for (int w : new int[] {-1, 3, 9, 4106, MAX, MIN}) due("what " + w, x.fits(0, 0, 1, w), -2);
     tell(x, 3, 1, "heard 1 1;heard 1 0;");
     due("two ways heard", x.fits(0, 0, 1, 0), 0);
@@ -584,6 +610,22 @@ public final class PromiseTests {
     tell(x, 1, 0, "note 0 0 1;");
     int[] hard = {18, NONE, NONE, NONE};
     for (int w = 0; w < 4; w++) due("need, a hard one " + w, x.need(0, 0, 0, w), hard[w]);
+    // No leak, no treads: eleven beats of 9 are 99, twelve are more.
+    tell(x, 0, 0, "bellows 9 0 9;strength 1;pipe 9 1 0 0;");
+    tell(x, 1, 0, "note 0 0 6;note 0 6 5;");
+    due("the greatest size", x.need(0, 0, 0, 0), 99);
+    tell(x, 1, 0, "note 0 0 6;note 0 6 6;");
+    due("no size", x.need(0, 0, 0, 0), NONE);
+    // All beats trodden, the first for nothing.
+    tell(x, 2, 0, "tread 1;tread 2;tread 3;tread 4;tread 5;tread 6;tread 7;tread 8;tread 9;tread 10;tread 11;tread 0;");
+    due("the greatest strength", x.need(0, 0, 0, 2), 12);
+    // Beat 0 takes all, beat 1 has what is filled less the leak, and takes 18.
+    tell(x, 0, 0, "bellows 20 2 5;strength 1;pipe 9 1 0 0;pipe 9 1 0 0;");
+    tell(x, 1, 0, "note 0 0 2;note 1 0 2;");
+    tell(x, 2, 0, "tread 1;");
+    due("the greatest fill", x.need(0, 0, 0, 1), 20);
+    tell(x, 0, 0, "bellows 21 3 5;strength 1;pipe 9 1 0 0;pipe 9 1 0 0;");
+    due("no fill", x.need(0, 0, 0, 1), NONE);
     due("what 4", x.need(0, 0, 0, 4), NONE);
     due("what -1", x.need(0, 0, 0, -1), NONE);
     due("band 1", x.need(1, 0, 0, 0), NONE);
@@ -605,6 +647,12 @@ public final class PromiseTests {
     due("other calls draw by numbers", x.after(0, 0, 0, 3), 1);
     tell(x, 1, 0, "");
     for (int k = 0; k < 3; k++) due("rank, no notes " + k, x.rank(0, 0, 0, k), k);
+    tell(x, 0, 0, "bellows 4 0 4;pipe 4 1 0 0;pipe 3 1 0 0;");
+    tell(x, 1, 0, "note 0 0 1;note 1 0 1;note 0 1 1;");
+    tell(x, 2, 0, "tread 1;");
+    due("by treads", x.rank(0, 0, 0, NONE), 1);
+    tell(x, 2, 0, "");
+    due("without treads", x.rank(0, 0, 0, NONE), 2);
     tell(x, 0, 0, "");
     due("no pipes", x.rank(0, 0, 0, NONE), 0);
     due("no pipes", x.rank(0, 0, 0, 0), NONE);
@@ -629,6 +677,9 @@ public final class PromiseTests {
     tell(x, 1, 0, LONG);
     due("as one", x.canon(0, 0, 0, 1), 0);
     due("apart", x.canon(0, 0, 0, 2), 1);
+    tell(x, 0, 0, "bellows 3 0 0;pipe 3 1 0 0;");
+    tell(x, 1, 0, "note 0 3 1;");
+    due("the first is played, too", x.canon(0, 0, 0, 1), 1);
   }
 
   static void p25() {
@@ -683,6 +734,10 @@ public final class PromiseTests {
     tell(x, 1, 1, "note 5 10 2;note 5 10 1;note 5 11 1;note 4 9 1;");
     int[] late = {2, 9, 1, 11, 48};
     for (int w = 0; w < 5; w++) due("late " + w, x.dense(1, w), late[w]);
+    tell(x, 1, 1, "note 0 0 2;note 0 2 1;");
+    due("one behind the other", x.dense(1, 0), 0);
+    tell(x, 1, 1, "note 0 2 1;note 0 0 2;");
+    due("one ahead of the other", x.dense(1, 0), 0);
   }
 
   static void p28() {
@@ -785,6 +840,9 @@ public final class PromiseTests {
     tell(x, 2, 0, "tread 3;");
     tell(x, 2, 1, "tread 1;tread 4;");
     due("told", x.toil(0, 0, 0, 2), 2);
+    tell(x, 2, 0, "tread 1;");
+    due("both told", x.toil(0, 0, 0, 2), 3);
+    tell(x, 2, 0, "tread 3;");
     tell(x, 3, 0, "heard 1 0;");
     due("ease", x.toil(0, 0, 0, 0), 0);
     due("toil", x.toil(0, 0, 0, 1), 11);
