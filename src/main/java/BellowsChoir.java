@@ -20,6 +20,8 @@ public final class BellowsChoir {
     private static final int BEATS = 12;
     private static final int TREAD_SETS = 1 << BEATS;
     private static final int PIPES = 6;
+    /** In so many rows six pipes may stand. */
+    private static final int ROWS = 720;
     private static final int NOTES = 8;
     private static final int LINES = 8;
     private static final int SEATS = 10;
@@ -94,7 +96,9 @@ public final class BellowsChoir {
         }
         int number = further ? told.counts[sort] : at;
         told.keep(reader, sort, number);
-        forgetWays();
+        if (sort == BAND || sort == SCORE) {
+            forgetWays();
+        }
         return number;
     }
 
@@ -396,7 +400,7 @@ public final class BellowsChoir {
         int fewest = Integer.MAX_VALUE;
         boolean more = true;
         firstRow(play.row);
-        for (int turn = 0; turn < 720 && more && fewest > 0; turn++) {
+        for (int turn = 0; turn < ROWS && more && fewest > 0; turn++) {
             int silent = play.silences(set, fewest);
             if (silent < fewest) {
                 fewest = silent;
@@ -565,7 +569,7 @@ public final class BellowsChoir {
         int shortest = Integer.MAX_VALUE;
         boolean more = true;
         firstRow(row);
-        for (int turn = 0; turn < 720 && more; turn++) {
+        for (int turn = 0; turn < ROWS && more; turn++) {
             int way = band.wayBy(row);
             if (way < shortest) {
                 shortest = way;
@@ -617,7 +621,7 @@ public final class BellowsChoir {
         if (first) {
             return n == 0 ? NONE : Duel.bestMove(b, n);
         }
-        return Duel.bestLead(b, b.size, 0, n);
+        return Duel.lead(b, n);
     }
 
     public long mouse(int band, int p, int n, boolean under) {
@@ -1086,7 +1090,12 @@ public final class BellowsChoir {
 
     /** Reads the tape as one text, and holds what it told until the next is read. */
     private static final class Reader {
+        private static final int BELLOWS_WORD = 0;
+        private static final int STRENGTH_WORD = 1;
         private static final int PIPE_WORD = 2;
+        private static final int NOTE_WORD = 3;
+        private static final int TREAD_WORD = 4;
+        private static final int REST_WORD = 5;
         private static final int WORDS = 7;
         private static final int IN_LINE = 4;
         /** By word: its sort, its numbers, and how many such lines there may be (0: a later one strikes). */
@@ -1114,8 +1123,8 @@ public final class BellowsChoir {
         private int lines = 0;
         private final int[] numbers = new int[IN_LINE];
 
-        void read(byte[] tape, int length, int sort) {
-            start(tape, length);
+        void read(byte[] bytes, int many, int sort) {
+            start(bytes, many);
             int at = skipBlanks(0);
             for (int token = 0; token < TAPE && at < length && fault != 1; token++) {
                 int behind = tokenEnd(at);
@@ -1130,9 +1139,9 @@ public final class BellowsChoir {
             }
         }
 
-        private void start(byte[] tape, int length) {
-            this.tape = tape;
-            this.length = Math.min(length, tape.length);
+        private void start(byte[] bytes, int many) {
+            tape = bytes;
+            length = Math.min(many, bytes.length);
             band.clear();
             score.notes = 0;
             log.lines = 0;
@@ -1210,17 +1219,17 @@ public final class BellowsChoir {
 
         private static String spelling(int word) {
             switch (word) {
-                case 0:
+                case BELLOWS_WORD:
                     return "bellows";
-                case 1:
+                case STRENGTH_WORD:
                     return "strength";
                 case PIPE_WORD:
                     return "pipe";
-                case 3:
+                case NOTE_WORD:
                     return "note";
-                case 4:
+                case TREAD_WORD:
                     return "tread";
-                case 5:
+                case REST_WORD:
                     return "rest";
                 default:
                     return "heard";
@@ -1273,24 +1282,24 @@ public final class BellowsChoir {
 
         private void closeLine() {
             switch (word) {
-                case 0:
+                case BELLOWS_WORD:
                     band.size = numbers[0];
                     band.leak = numbers[1];
                     band.fill = numbers[2];
                     break;
-                case 1:
+                case STRENGTH_WORD:
                     band.strength = numbers[0];
                     break;
                 case PIPE_WORD:
                     band.addPipe(numbers);
                     break;
-                case 3:
+                case NOTE_WORD:
                     score.addNote(numbers);
                     break;
-                case 4:
+                case TREAD_WORD:
                     treads |= 1 << numbers[0];
                     break;
-                case 5:
+                case REST_WORD:
                     treads &= ~(1 << numbers[0]);
                     break;
                 default:
@@ -1567,20 +1576,20 @@ public final class BellowsChoir {
             }
             silencesInAll = 0;
             play.begin();
-            spread(play, 0, 0, 0L);
+            spread(this, play, 0, 0, 0L);
             known = true;
         }
 
         /** Sets with the same first beats share the play of these. */
-        private void spread(Play play, int beat, int set, long sofar) {
+        private static void spread(Ways ways, Play play, int beat, int set, long sofar) {
             if (beat >= BEATS) {
-                keepWay(set, sofar);
+                ways.keepWay(set, sofar);
                 return;
             }
             play.step(beat, false);
-            spread(play, beat + 1, set, sofar + ofBeat(play, beat));
+            spread(ways, play, beat + 1, set, sofar + ofBeat(play, beat));
             play.step(beat, true);
-            spread(play, beat + 1, set | 1 << beat, sofar + ofBeat(play, beat));
+            spread(ways, play, beat + 1, set | 1 << beat, sofar + ofBeat(play, beat));
         }
 
         private void keepWay(int set, long way) {
@@ -1755,32 +1764,41 @@ public final class BellowsChoir {
             least = 0;
             treads = set;
             most = d;
-            lay(play, score, 0, 0);
+            layFrom(this, play, score, 0, 0);
             return found;
         }
 
         /** Rows come by numbers, so that of those that are as good the first stays. */
-        private void lay(Play play, Score score, int k, int sum) {
+        private static void layFrom(Shifter to, Play play, Score score, int k, int sum) {
             if (k >= score.notes) {
-                found = true;
-                least = sum;
-                System.arraycopy(later, 0, best, 0, NOTES);
+                to.keepRow(sum);
                 return;
             }
-            int room = Math.min(most, BEATS - score.beat[k] - score.length[k]);
-            for (int s = 0; s <= room; s++) {
-                if (found && sum + s >= least) {
-                    return;
-                }
-                System.arraycopy(laid[k], 0, play.wanted, 0, BEATS);
-                play.addNote(score, k, s);
-                // More notes never leave more breath: what fails with few fails with all.
-                if (play.well(treads, 0)) {
-                    System.arraycopy(play.wanted, 0, laid[k + 1], 0, BEATS);
-                    later[k] = s;
-                    lay(play, score, k + 1, sum + s);
+            int room = Math.min(to.most, BEATS - score.beat[k] - score.length[k]);
+            for (int s = 0; s <= room && to.isBetter(sum + s); s++) {
+                if (to.goesOn(play, score, k, s)) {
+                    layFrom(to, play, score, k + 1, sum + s);
                 }
             }
+        }
+
+        private void keepRow(int sum) {
+            found = true;
+            least = sum;
+            System.arraycopy(later, 0, best, 0, NOTES);
+        }
+
+        private boolean isBetter(int sum) {
+            return !found || sum < least;
+        }
+
+        /** Lays a note behind those ahead of it; more notes never leave more breath, so what fails now fails with all. */
+        private boolean goesOn(Play play, Score score, int k, int shift) {
+            System.arraycopy(laid[k], 0, play.wanted, 0, BEATS);
+            play.addNote(score, k, shift);
+            System.arraycopy(play.wanted, 0, laid[k + 1], 0, BEATS);
+            later[k] = shift;
+            return play.well(treads, 0);
         }
     }
 
@@ -1837,10 +1855,14 @@ public final class BellowsChoir {
     private static final class Duel {
         private static final int TREAD = BELLOWS;
 
+        static int lead(Band band, int turns) {
+            return bestLead(band, band.size, 0, turns);
+        }
+
         static int bestMove(Band band, int turns) {
-            int lead = bestLead(band, band.size, 0, turns);
+            int best = lead(band, turns);
             for (int p = 0; p < band.pipes; p++) {
-                if (band.draw[p] <= band.size && leadBy(band, band.size, 0, turns, p) == lead) {
+                if (band.draw[p] <= band.size && leadBy(band, band.size, 0, turns, p) == best) {
                     return p;
                 }
             }
@@ -1848,7 +1870,7 @@ public final class BellowsChoir {
         }
 
         /** By how much he whose turn it is comes to lead, in what is left. */
-        static int bestLead(Band band, int breath, int sounded, int turns) {
+        private static int bestLead(Band band, int breath, int sounded, int turns) {
             if (turns <= 0) {
                 return 0;
             }

@@ -103,6 +103,21 @@ public final class PromiseTests {
     due("text", x.text(2, NONE), 0);
     due("treads", x.treads(0), 2);
     due("the tape is empty", x.end(1), NONE);
+    // What is cut off is not read on.
+    feed(x, "treads");
+    x.end(5);
+    due("a word cut", x.text(2, NONE), NONE);
+    due("its place", x.fault(1), 5);
+    feed(x, "tread 123");
+    x.end(8);
+    due("a number cut", x.text(2, NONE), NONE);
+    due("its place", x.fault(1), 8);
+    feed(x, " ".repeat(595) + "tread");
+    due("a word at the tape's end", x.text(2, NONE), NONE);
+    due("its place", x.fault(1), 600);
+    feed(x, " ".repeat(592) + "tread 12");
+    due("a number at the tape's end", x.text(2, NONE), NONE);
+    due("its place", x.fault(1), 600);
   }
 
   static void p4() {
@@ -342,6 +357,13 @@ public final class PromiseTests {
     tell(x, 1, 0, "");
     due("no notes", x.shift(0, 0, 0, 0, NONE), 0);
     due("no note 0", x.shift(0, 0, 0, 0, 0), NONE);
+    // Breath for four draws, then the tread on 5: the fifth note has to wait for it (or fall together with another).
+    tell(x, 0, 0, "bellows 8 0 8;strength 1;pipe 2 1 0 0;");
+    tell(x, 1, 0, "note 0 0 1;note 0 1 1;note 0 2 1;note 0 3 1;note 0 4 1;note 0 7 1;note 0 8 1;note 0 11 1;");
+    tell(x, 2, 0, "tread 5;");
+    due("eight notes", x.shift(0, 0, 0, 1, NONE), 1);
+    int[] row = {0, 0, 0, 0, 1, 0, 0, 0};
+    for (int k = 0; k < 8; k++) due("eight notes, " + k, x.shift(0, 0, 0, 1, k), row[k]);
   }
 
   static void p11() {
@@ -390,6 +412,10 @@ public final class PromiseTests {
     tell(x, 1, 0, LONG);
     due("can't be", x.work(0, 0, false), NONE);
     due("can't be", x.work(0, 0, true), NONE);
+    tell(x, 0, 0, SMALL);
+    tell(x, 1, 0, "note 0 0 6;note 0 6 6;");
+    due("all but the first", x.work(0, 0, false), 11);
+    due("all but the first", x.work(0, 0, true), 4094);
   }
 
   static void p13() {
@@ -626,6 +652,12 @@ public final class PromiseTests {
     due("the greatest fill", x.need(0, 0, 0, 1), 20);
     tell(x, 0, 0, "bellows 21 3 5;strength 1;pipe 9 1 0 0;pipe 9 1 0 0;");
     due("no fill", x.need(0, 0, 0, 1), NONE);
+    // A tread fills what leaks: 98 stay if beat 1, ahead of which there are 98, is trodden, and 98 are drawn.
+    tell(x, 0, 0, "bellows 99 1 1;strength 12;pipe 9 1 0 0;pipe 8 1 0 0;");
+    tell(x, 1, 0, "note 0 2 6;note 0 8 4;note 1 11 1;");
+    due("the laziest of all", x.need(0, 0, 0, 3), 99);
+    tell(x, 0, 0, "bellows 99 1 1;strength 12;pipe 9 1 0 0;pipe 9 1 0 0;");
+    due("nobody is as lazy", x.need(0, 0, 0, 3), NONE);
     due("what 4", x.need(0, 0, 0, 4), NONE);
     due("what -1", x.need(0, 0, 0, -1), NONE);
     due("band 1", x.need(1, 0, 0, 0), NONE);
