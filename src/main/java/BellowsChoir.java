@@ -78,6 +78,9 @@ public final class BellowsChoir {
     }
 
     public int text(int sort, int at) {
+        // The tape is taken by every call, also by one that reads no text.
+        int length = told.length;
+        told.length = 0;
         told.fault = 0;
         told.place = NONE;
         if (sort < 0 || sort >= SORTS) {
@@ -87,8 +90,7 @@ public final class BellowsChoir {
         if (further ? told.counts[sort] >= OF_A_SORT : !told.has(sort, at)) {
             return MISSING;
         }
-        reader.read(told.tape, told.length, sort);
-        told.length = 0;
+        reader.read(told.tape, length, sort);
         if (reader.fault != 0) {
             told.fault = reader.fault;
             told.place = reader.place;

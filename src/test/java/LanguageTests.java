@@ -117,7 +117,8 @@ public final class LanguageTests {
         for (int turn = 0; turn < 60; turn++) {
           Object[] args = new Object[m.getParameterCount()];
           for (int i = 0; i < args.length; i++) args[i] = m.getParameterTypes()[i] == boolean.class ? (Object) r.nextBoolean() : (Object) values[r.nextInt(3) == 0 ? r.nextInt(values.length) : 4 + r.nextInt(2)];
-          if (m.getName().equals("text") || m.getName().equals("feed") || m.getName().equals("again")) continue;
+          // These change what is told, so that most other calls would find nothing: the odd rounds leave them out.
+          if (round % 2 != 0 && (m.getName().equals("text") || m.getName().equals("feed") || m.getName().equals("again"))) continue;
           try { m.invoke(x, args); } catch (java.lang.reflect.InvocationTargetException e) { check(false, m + " threw " + e.getCause()); }
         }
       }

@@ -168,11 +168,11 @@ public final class PlainModelTests {
     }
 
     long text(int sort, int at) {
+      String tape = s.tape;
+      s.tape = "";
       s.fault = 0; s.place = NONE;
       if (sort < 0 || sort > 3) return -2;
       if (at == NONE ? s.all.get(sort).size() == 2 : no(sort, at)) return -2;
-      String tape = s.tape;
-      s.tape = "";
       List<String> tokens = new ArrayList<>();
       List<Integer> places = new ArrayList<>();
       Matcher m = TOKEN.matcher(tape);
@@ -718,6 +718,7 @@ public final class PlainModelTests {
       due("text " + sort + " " + at + " [" + t + "]", x.text(sort, at), m.text(sort, at));
       due("fault 0 [" + t + "]", x.fault(0), m.fault(0));
       due("fault 1 [" + t + "]", x.fault(1), m.fault(1));
+      due("end 1 behind text " + sort + " " + at, x.end(1), m.end(1));
     }
     void bandFor(int at) {
       String t = "bellows " + (4 + n(25)) + " " + n(3) + " " + (2 + n(8)) + ";strength " + n(9) + ";";

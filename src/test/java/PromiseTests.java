@@ -120,6 +120,21 @@ public final class PromiseTests {
     due("its place", x.fault(1), 600);
   }
 
+  /** A text is refused behind one with a fault: nothing is left of either on the tape, nor of the fault. */
+  static void taken(BellowsChoir x, int sort, int at) {
+    String call = "text " + sort + " " + at;
+    tell(x, 2, 0 < x.count(2) ? 0 : NONE, "tread 12;");
+    due("a fault ahead of " + call, x.fault(0), 2);
+    feed(x, "tread 7;");
+    due("end ahead of " + call, x.end(8), 8);
+    due(call, x.text(sort, at), -2);
+    due("fault behind " + call, x.fault(0), 0);
+    due("place behind " + call, x.fault(1), NONE);
+    due("the tape is empty behind " + call, x.end(1), NONE);
+    due("feed behind " + call, x.feed(0, 0, 0, 0, 0), 20);
+    x.end(0);
+  }
+
   static void p4() {
     BellowsChoir x = new BellowsChoir();
     for (int sort = 0; sort < 4; sort++) {
@@ -142,14 +157,20 @@ public final class PromiseTests {
     due("a fault leaves the old", tell(x, 2, 1, "tread 5;tread 12;"), NONE);
     due("treads 1", x.treads(1), 16);
     due("the tape is empty behind a fault", x.end(1), NONE);
-    // What is not read stays on the tape, and there is no fault any more.
-    feed(x, "tread 7;");
-    due("end", x.end(8), 8);
-    due("not read", x.text(2, NONE), -2);
-    due("fault", x.fault(0), 0);
-    due("place", x.fault(1), NONE);
-    due("read now", x.text(2, 0), 0);
-    due("treads 0", x.treads(0), 128);
+    // The tape is taken by a call that reads no text, too, and there is no fault any more.
+    taken(x, 2, NONE);
+    taken(x, 2, 2);
+    taken(x, 2, -2);
+    taken(x, 2, MAX);
+    taken(x, 2, MIN);
+    taken(x, 4, NONE);
+    taken(x, -1, 0);
+    taken(x, MAX, 0);
+    taken(x, MIN, NONE);
+    for (int sort = 0; sort < 4; sort++) taken(new BellowsChoir(), sort, 0);
+    due("treads 0", x.treads(0), 0);
+    due("treads 1", x.treads(1), 16);
+    due("treads", x.count(2), 2);
     due("later ones strike", tell(x, 2, 0, "tread 1;tread 2;rest 2;tread 3;rest 1;tread 1;"), 0);
     due("treads 0", x.treads(0), 2 + 8);
     due("later bellows strike", tell(x, 0, 0, "bellows 5 2 3;strength 4;bellows 6 0 7;strength 1;"), 0);
