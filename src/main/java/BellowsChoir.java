@@ -39,6 +39,8 @@ public final class BellowsChoir {
     private static final int MOUSE_DRAW = 5;
     private static final int TENTHS = 10;
     private static final int IMAGES = 3;
+    /** No count and no way is as much as this. */
+    private static final int ABOVE_ALL = 1000000;
 
     private final Told told = new Told();
     private final Told[] images = new Told[IMAGES];
@@ -399,7 +401,7 @@ public final class BellowsChoir {
     }
 
     private int bestDrawingRow(int set) {
-        int fewest = Integer.MAX_VALUE;
+        int fewest = ABOVE_ALL;
         boolean more = true;
         firstRow(play.row);
         for (int turn = 0; turn < ROWS && more && fewest > 0; turn++) {
@@ -490,7 +492,7 @@ public final class BellowsChoir {
         }
         long[] rows = waysOf(band, 0).rows;
         long[] others = told.counts[SCORE] > 1 ? waysOf(band, 1).rows : rows;
-        int least = Integer.MAX_VALUE;
+        int least = ABOVE_ALL;
         int best = 0;
         for (int set = 0; set < TREAD_SETS; set++) {
             int worst = Math.max(Ways.silences(rows[set]), Ways.silences(others[set]));
@@ -568,7 +570,7 @@ public final class BellowsChoir {
     }
 
     private int shortestTour(Band band) {
-        int shortest = Integer.MAX_VALUE;
+        int shortest = ABOVE_ALL;
         boolean more = true;
         firstRow(row);
         for (int turn = 0; turn < ROWS && more; turn++) {
@@ -587,7 +589,7 @@ public final class BellowsChoir {
             return NONE;
         }
         Band b = told.bands[band];
-        int least = Integer.MAX_VALUE;
+        int least = ABOVE_ALL;
         int best = 0;
         for (int seat = 0; seat < SEATS * SEATS; seat++) {
             int way = hide.lay(b, (1 << b.pipes) - 1, seat / SEATS, seat % SEATS);
@@ -1716,7 +1718,7 @@ public final class BellowsChoir {
 
         int nextToHear(long[] rows) {
             countAlike(rows);
-            int least = Integer.MAX_VALUE;
+            int least = ABOVE_ALL;
             int best = NONE;
             for (int beat = 0; beat < BEATS; beat++) {
                 int most = mostAlike(beat);

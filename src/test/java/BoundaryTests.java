@@ -201,6 +201,12 @@ public final class BoundaryTests {
       due("a text of 600", x.text(0, NONE), 0);
       due("a word behind 592", feed(x, " ".repeat(592) + "tread 9;"), 600);
       due("a text to the last byte", x.text(2, NONE), 0);
+      feed(x, " ".repeat(595) + "tread");
+      due("a word to the last byte", x.text(2, NONE), NONE);
+      due("a word to the last byte, place", x.fault(1), 600);
+      feed(x, " ".repeat(592) + "tread 12");
+      due("a number to the last byte", x.text(2, NONE), NONE);
+      due("a number to the last byte, place", x.fault(1), 600);
       due("treads", x.treads(0), 512);
     });
     sentence("TOKENS, as long as they go, blanks (10, 32) between", () -> {
@@ -227,6 +233,12 @@ public final class BoundaryTests {
       refused(2, "tread{1;", 1, 5);
       refused(2, "treadA1;", 1, 5);
       refused(2, "TREAD 1;", 1, 0);
+      String[] word = {"bellows", "strength", "pipe", "note", "tread", "rest", "heard"}, rest = {" 1 1 1;", " 1;", " 1 1 1 1;", " 1 1 1;", " 1;", " 1;", " 1 1;"};
+      int[] sort = {0, 0, 0, 1, 2, 2, 3};
+      for (int w = 0; w < word.length; w++) {
+        told(sort[w], word[w] + rest[w]);
+        for (int i = 0; i < word[w].length(); i++) refused(sort[w], word[w].substring(0, i) + "x" + word[w].substring(i + 1) + rest[w], 1, 0);
+      }
       refused(2, "Tread 1;", 1, 0);
     });
     sentence("NUMBERS, 1 or 2 digits", () -> {
@@ -465,6 +477,14 @@ public final class BoundaryTests {
       due("rank", x.rank(0, 0, 0, NONE), 0);
       due("need", x.need(0, 0, 0, 0), 1);
       due("no pipes at all", choir("", "note 0 0 1;", "").after(0, 0, 0, 0), NONE);
+      x = choir("bellows 9 0 0;pipe 1 1 1 1;pipe 9 9 9 9;", "note 1 0 2;", "");
+      due("there at first", x.cut(0, 0, 0, false), 0);
+      tell(x, 0, 0, "bellows 9 0 0;pipe 1 1 1 1;");
+      due("not there any more", x.cut(0, 0, 0, false), 0);
+      due("not there any more, which", x.cut(0, 0, 0, true), 0);
+      played(x, 2, 0, 0);
+      played(x, 3, 0, 0);
+      due("nor its leather", x.leather(0, 2), NONE);
     });
     sentence("It is WELL played, if no PIPE is SILENT.", () -> {
       due("just enough", choir("bellows 9 0 0;pipe 3 1 0 0;", "note 0 0 3;", "").work(0, 0, false), 0);
@@ -494,6 +514,7 @@ public final class BoundaryTests {
       int[] none = {NONE, 0, 0, 0, NONE};
       for (int d = -1; d < 4; d++) due("as it is, " + d, x.shift(0, 0, 0, d, NONE), none[d + 1]);
       due("no notes", choir(TWO, "", "").shift(0, 0, 0, 0, NONE), 0);
+      due("by treads", choir(SMALL, LONG, "").shift(0, 0, 0, 2, NONE), NONE);
     });
     sentence("(none going beyond BEAT 11)", () -> {
       due("on the last beat", choir(TWO, "note 0 11 1;note 1 11 1;", ALL).shift(0, 0, 0, 2, NONE), NONE);
@@ -606,6 +627,7 @@ public final class BoundaryTests {
     sentence("what the first does first, the least that is best (the PIPE; 6 treads).", () -> {
       due("two alike", told(0, "bellows 9 0 0;pipe 1 2 0 0;pipe 1 2 0 0;").duel(0, 1, true), 0);
       due("a pipe worth nothing", told(0, "bellows 9 0 0;pipe 1 0 0 0;").duel(0, 1, true), 0);
+      due("just enough breath", told(0, "bellows 5 0 1;pipe 5 3 0 0;").duel(0, 1, true), 0);
       due("no breath", told(0, "bellows 4 0 1;pipe 5 3 0 0;").duel(0, 1, true), 6);
       // By any pipe the first has to tread for the second's second one.
       due("treading is best", told(0, "bellows 6 0 6;pipe 4 5 0 0;pipe 4 5 0 0;pipe 2 5 0 0;").duel(0, 4, true), 6);
@@ -668,11 +690,40 @@ public final class BoundaryTests {
       due("eight", heard(SMALL, "note 0 0 6;note 0 6 6;", eight).fits(0, 0, 0, 1), 2 + 4 + 8 + 16 + 32 + 64 + 128 + 2048);
     });
     sentence("NEXT: the BEAT on which, of those that FIT, the greatest number by which one and the same number of PIPES SOUND is least, of several the least.", () -> {
-      due("all alike", heard(SMALL, "", "").fits(0, 0, 0, 2), 0);
+      BellowsChoir x = heard(SMALL, "", "");
+      for (int turn = 0; turn < 3; turn++) due("all alike", x.fits(0, 0, 0, 2), 0);
+      // Beat 3 has its 4 if 2 or 3 is trodden, beat 4 if it is and both or none of these: 3072 sound, 3072 are silent.
+      due("two as good, sounding and silent", heard("bellows 6 0 2;strength 12;pipe 4 0 0 0;", "note 0 1 1;note 0 3 2;", "").fits(0, 0, 0, 2), 3);
       due("the second", heard(SMALL, LONG, "").fits(0, 0, 0, 2), 1);
       due("the second, told of", heard(SMALL, LONG, "heard 1 1;").fits(0, 0, 0, 2), 0);
       due("the second or the third", heard(SMALL, "note 0 0 3;", "").fits(0, 0, 0, 2), 1);
       due("the last", heard(SMALL, "note 0 10 2;", "heard 10 1;").fits(0, 0, 0, 2), 11);
+    });
+    sentence("BEATS that are trodden (bits) FIT", () -> {
+      // Beat 0 takes all; a tread fills 1. Beat 11 wants 11: all beats but the first, for which there would be no strength.
+      String deep = "pipe 9 0 0 0;pipe 9 0 0 0;pipe 1 0 0 0;pipe 1 0 0 0;", low = "note 0 0 1;note 1 0 1;note 2 0 1;note 3 0 1;";
+      BellowsChoir x = heard("bellows 20 0 1;strength 11;" + deep, low + "note 0 11 1;note 2 11 1;note 3 11 1;", "heard 11 3;");
+      int[] what = {0, 1, 2, 10, 11}, want = {1, 4094, 0, 4094, -2};
+      for (int i = 0; i < what.length; i++) due("only one fits, " + what[i], x.fits(0, 0, 0, what[i]), want[i]);
+      due("only one fits, ease", x.toil(0, 0, 0, 0), 11);
+      due("only one fits, toil", x.toil(0, 0, 0, 1), 11);
+      for (int t = 0; t < 12; t++) due("only one fits, N " + t, x.trodden(0, 0, 0, t, false), t == 0 ? 0 : 1);
+      for (int t = 0; t < 12; t++) due("only one fits, D " + t, x.trodden(0, 0, 0, t, true), 1);
+      // Nothing sounds on beat 11: it was not trodden but on beat 0, perhaps.
+      x = heard("bellows 20 0 1;strength 12;" + deep, low + "note 2 11 1;", "heard 11 0;");
+      int[] two = {2, 0, 0, 0, 1};
+      for (int i = 0; i < what.length; i++) due("two fit, " + what[i], x.fits(0, 0, 0, what[i]), two[i]);
+      due("two fit, one more", x.fits(0, 0, 0, 12), -2);
+      due("two fit, ease", x.toil(0, 0, 0, 0), 0);
+      due("two fit, toil", x.toil(0, 0, 0, 1), 1);
+      // Each log by itself, in whatever row they are asked.
+      x = heard(SMALL, "note 0 0 3;", "heard 1 1;heard 1 0;");
+      tell(x, 3, NONE, "heard 1 1;");
+      int[][] many = {{0, NONE, NONE}, {2048, 2, 2}};
+      for (int turn = 0; turn < 2; turn++) for (int log = 0; log < 2; log++) for (int w = 0; w < 3; w++) due("log " + log + " " + w, x.fits(0, 0, log, w), many[log][w]);
+      tell(x, 3, 0, "heard 2 0;");
+      int[][] other = {{2048, 0, 1}, {2048, 2, 2}};
+      for (int turn = 0; turn < 2; turn++) for (int log = 0; log < 2; log++) for (int w = 0; w < 3; w++) due("log " + log + " " + w, x.fits(0, 0, log, w), other[log][w]);
     });
     sentence("x becomes x * 1103515245 + 12345 (of 32 bits), it is x shifted right by 16 without sign, remainder by n", () -> {
       BellowsChoir x = choir(SMALL, LONG, "");
@@ -714,6 +765,8 @@ public final class BoundaryTests {
     sentence("LOUDEST: the BEAT on which most PIPES SOUND, of several the least", () -> {
       behind("nothing sounds", 2, 0, choir(MUTE, WHOLE, ""));
       behind("of several", 2, 4, choir(WIDE, "note 0 0 6;note 1 4 2;note 0 7 1;note 1 7 1;", ""));
+      behind("the first", 2, 0, choir(WIDE, "note 0 0 1;note 1 0 1;note 0 2 1;", ""));
+      behind("the second", 2, 1, choir(WIDE, "note 0 0 2;note 1 1 1;note 0 2 1;", ""));
       behind("the last", 2, 11, choir(WIDE, "note 0 11 1;", ""));
       behind("the last, by two", 2, 11, choir(WIDE, "note 0 0 6;note 0 11 1;note 1 11 1;", ""));
     });
@@ -744,6 +797,10 @@ public final class BoundaryTests {
       behind("each other one", 7, 2 + 8 + 32 + 128 + 512 + 2048, choir("strength 1;", "", ALL));
       behind("all", 7, 4095, choir("strength 0;", "", ALL));
       behind("those that were to be trodden", 7, 1 + 2048, choir("strength 0;", "", "tread 0;tread 11;"));
+      BellowsChoir x = choir("strength 0;", "", "tread 3;");
+      tell(x, 2, NONE, "tread 4;");
+      due("by the first", x.after(0, 0, 0, 7), 8);
+      due("by the second", x.after(0, 0, 1, 7), 16);
     });
     sentence("HUSH: the longest run of BEATS on which no PIPE SOUNDS: how many; where it begins, the first of several (none).", () -> {
       behind("none", 8, 0, choir(WIDE, WHOLE, ""));
@@ -767,6 +824,10 @@ public final class BoundaryTests {
       String nine = "bellows 9 0 9;strength 12;pipe 9 1 0 0;";
       due("greatest size", choir(nine, "note 0 0 6;note 0 6 5;", "").need(0, 0, 0, 0), 99);
       due("no size", choir(nine, WHOLE, "").need(0, 0, 0, 0), NONE);
+      due("100 is no size", choir(nine + "pipe 1 1 0 0;", "note 0 0 6;note 0 6 5;note 1 11 1;", "").need(0, 0, 0, 0), NONE);
+      due("by treads, no fill", choir(SMALL, LONG, "").need(0, 0, 0, 1), NONE);
+      due("by treads, no strength", choir(SMALL, LONG, "").need(0, 0, 0, 2), NONE);
+      due("by treads, a size", choir(SMALL, LONG, "").need(0, 0, 0, 0), 8);
       due("least fill", choir(SMALL, "note 0 0 1;", "").need(0, 0, 0, 1), 0);
       due("greatest fill", choir("bellows 20 2 5;strength 1;pipe 9 1 0 0;pipe 9 1 0 0;", "note 0 0 2;note 1 0 2;", "tread 1;").need(0, 0, 0, 1), 20);
       due("no fill", choir("bellows 21 3 5;strength 1;pipe 9 1 0 0;pipe 9 1 0 0;", "note 0 0 2;note 1 0 2;", "tread 1;").need(0, 0, 0, 1), NONE);
@@ -785,6 +846,7 @@ public final class BoundaryTests {
       due("greatest", choir("bellows 99 1 1;strength 12;pipe 9 1 0 0;pipe 8 1 0 0;", "note 0 2 6;note 0 8 4;note 1 11 1;", "").need(0, 0, 0, 3), 99);
       due("none", choir("bellows 99 1 1;strength 12;pipe 9 1 0 0;pipe 9 1 0 0;", "note 0 2 6;note 0 8 4;note 1 11 1;", "").need(0, 0, 0, 3), NONE);
       due("no strength", choir("bellows 4 1 4;strength 0;pipe 3 1 0 0;", LONG, "").need(0, 0, 0, 3), NONE);
+      due("strength for one", choir("bellows 4 1 4;strength 1;pipe 3 1 0 0;", LONG, "").need(0, 0, 0, 3), 1);
     });
     sentence("so that fewest PIPES by BEATS are SILENT in all: how many; the first row by numbers: the k-th.", () -> {
       BellowsChoir x = choir("bellows 6 0 0;pipe 4 1 0 0;pipe 3 1 0 0;pipe 3 1 0 0;", "note 0 0 1;note 1 0 1;note 2 0 1;", "");
@@ -800,6 +862,15 @@ public final class BoundaryTests {
       int[] six = {1, 2, 0, 3, 4, 5};
       for (int k = 0; k < 6; k++) due("six, " + k, x.rank(0, 0, 0, k), six[k]);
       due("no pipes", choir("", LONG, "").rank(0, 0, 0, NONE), 0);
+      due("untrodden", choir(SMALL, LONG, "").rank(0, 0, 0, NONE), 1);
+      due("trodden", choir(SMALL, LONG, "tread 1;").rank(0, 0, 0, NONE), 0);
+      due("on the last beat", choir(SMALL, "note 0 11 1;", "").rank(0, 0, 0, NONE), 1);
+      // Found by trying all 720 rows: no other is as good as the last of them.
+      x = choir("bellows 27 0 10;strength 6;pipe 7 0 0 0;pipe 5 0 0 0;pipe 9 0 0 0;pipe 7 0 0 0;pipe 2 0 0 0;pipe 4 0 0 0;",
+        "note 5 10 1;note 0 3 6;note 3 4 6;note 1 1 4;note 2 9 1;note 4 6 4;note 2 2 6;note 5 6 2;",
+        "tread 0;tread 1;tread 2;tread 4;tread 5;tread 7;tread 9;");
+      due("the last row", x.rank(0, 0, 0, NONE), 8);
+      for (int k = 0; k < 6; k++) due("the last row, " + k, x.rank(0, 0, 0, k), 5 - k);
     });
     sentence("CANON of k, 1 .. 6: the SCORE and the same one k BEATS later", () -> {
       BellowsChoir x = choir(SMALL, "note 0 0 1;", "tread 1;");
@@ -871,6 +942,7 @@ public final class BoundaryTests {
     sentence("CAST: PIPES that have NOTES (bits).", () -> {
       due("none", told(1, "").dense(0, 4), 0);
       due("first and last", told(1, "note 5 0 1;note 0 0 1;note 5 3 1;").dense(0, 4), 33);
+      due("each of one note", told(1, "note 4 0 1;note 2 0 1;note 1 0 1;").dense(0, 4), 16 + 4 + 2);
     });
     sentence("LIKE of two SCORES: by how many PIPES and BEATS both have NOTES.", () -> {
       BellowsChoir x = told(1, "note 0 0 6;note 0 2 1;note 5 6 6;");
@@ -1090,6 +1162,17 @@ public final class BoundaryTests {
       x.end(16);
       due("what comes next comes behind", x.text(2, NONE), 1);
       due("treads", x.treads(1), 2 + 8);
+      feed(x, "treads");
+      x.end(5);
+      due("a word that is cut", x.text(2, 0), NONE);
+      due("a word that is cut, place", x.fault(1), 5);
+      feed(x, "tread 123");
+      x.end(8);
+      due("a number that is cut", x.text(2, 0), NONE);
+      due("a number that is cut, place", x.fault(1), 8);
+      feed(x, "tread 1 ;");
+      x.end(8);
+      due("a line that is cut", x.text(2, 0), NONE);
       feed(x, "#");
       due("none", x.end(0), 0);
       due("an empty text", x.text(2, 0), 0);
@@ -1128,6 +1211,28 @@ public final class BoundaryTests {
       due("no notes of the old one", x.note(0, NONE, 0), 0);
       tell(x, 3, 0, "");
       due("no lines of the old one", x.line(0, NONE, 0), 0);
+      // What was found for the old ones is not said of the new ones, nor of the others.
+      x = choir(SMALL, LONG, "");
+      tell(x, 0, NONE, "bellows 8 1 4;strength 12;pipe 3 1 0 0;");
+      tell(x, 1, NONE, "note 0 0 3;");
+      int[][] work = {{2, 2 + 4}, {0, 2}};
+      for (int turn = 0; turn < 2; turn++) for (int b = 0; b < 2; b++) for (int n = 0; n < 2; n++) due("work of " + b + " " + n, x.work(b, n, true), work[b][n]);
+      due("odds", x.odds(0, 0, 5, true), 2);
+      tell(x, 0, 0, "bellows 20 0 0;pipe 3 1 0 0;");
+      due("work of another band", x.work(0, 0, true), 0);
+      due("odds of another band", x.odds(0, 0, 5, true), 1);
+      tell(x, 0, 0, SMALL);
+      due("odds of the first again", x.odds(0, 0, 5, true), 2);
+      tell(x, 1, 0, WHOLE);
+      due("work of another score", x.work(0, 0, true), 4094);
+      due("odds of another score", x.odds(0, 0, 5, true), 2048);
+      tell(x, 1, 0, "");
+      due("odds of none", x.odds(0, 0, 10, false), 1);
+      tell(x, 0, 0, "bellows 1 0 0;pipe 9 1 0 0;");
+      tell(x, 1, 0, LONG);
+      for (int p = 0; p <= 10; p++) due("never well, by " + p, x.odds(0, 0, p, false), 0);
+      due("always two are silent", x.mean(0, 0, false), 2);
+      due("the other pair as it was", x.work(1, 1, true), 2);
     });
     sentence("NONE: a FAULT.", () -> {
       for (int sort = 0; sort < 4; sort++) {
@@ -1327,6 +1432,19 @@ public final class BoundaryTests {
 
   static void laterRefusals() {
     section("Promise 21: ");
+    sentence("What 0: FAIL, 1: FAINTER (NONE of both)", () -> {
+      BellowsChoir x = choir(WIDE, WHOLE, "");
+      due("fail", x.after(0, 0, 0, 0), NONE);
+      due("fainter", x.after(0, 0, 0, 1), NONE);
+      tell(x, 0, 0, MUTE);
+      due("fail at once", x.after(0, 0, 0, 0), 0);
+      due("the first faints", x.after(0, 0, 0, 1), 0);
+    });
+    sentence("8: HUSH, how many, 9: where (NONE).", () -> {
+      BellowsChoir x = choir(WIDE, WHOLE, "");
+      due("no hush", x.after(0, 0, 0, 8), 0);
+      due("nowhere", x.after(0, 0, 0, 9), NONE);
+    });
     sentence("-2: there is none such (of any), or for another what.", () -> {
       for (int sort = 0; sort < 3; sort++) for (int what : new int[] {0, 9}) ofThose(sort, sort, -2, "after", 0, 0, 0, what);
       oneOf(upTo(0, 9), 3, -2, "after", 0, 0, 0, 0);
