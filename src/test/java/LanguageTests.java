@@ -13,6 +13,7 @@ import java.util.regex.Pattern;
 
 /** The face of the document, and those rules of LANGUAGE.md that can be told by looking. */
 public final class LanguageTests {
+  static final int NONE = -1;
   static int wrong = 0;
   static void check(boolean holds, String what) {
     if (!holds) { wrong++; System.out.println(what); }
@@ -125,10 +126,49 @@ public final class LanguageTests {
     }
   }
 
+  static long bytesMade() {
+    return ((com.sun.management.ThreadMXBean) java.lang.management.ManagementFactory.getThreadMXBean()).getCurrentThreadAllocatedBytes();
+  }
+  static void tell(BellowsChoir x, int sort, int at, String t) {
+    x.end(0);
+    for (int k = 0; k < t.length(); k += 20) {
+      int[] v = new int[5];
+      for (int b = 0; b < 20; b++) v[b / 4] = v[b / 4] << 8 | (k + b < t.length() ? t.charAt(k + b) : ' ');
+      x.feed(v[0], v[1], v[2], v[3], v[4]);
+    }
+    x.text(sort, at);
+  }
+  /** What one object keeps is made once: 512 calls, whatever they are, make no more than that. */
+  static void room() {
+    String[] band = {"bellows 30 1 9;pipe 3 5 1 0;pipe 4 2 3 0;pipe 2 9 1 2;pipe 1 1 1 1;pipe 9 9 9 9;pipe 5 5 5 5;", "pipe 1 1 1 1;"};
+    String[] score = {"note 0 0 6;note 5 6 6;note 1 1 1;note 2 2 2;note 3 3 3;note 4 4 4;note 5 0 5;note 0 11 1;", "note 0 0 6;"};
+    long before = bytesMade();
+    BellowsChoir x = new BellowsChoir();
+    long first = bytesMade() - before;
+    for (int i = 0; i < 2; i++) { tell(x, 0, NONE, band[i]); tell(x, 1, NONE, score[i]); tell(x, 2, NONE, "tread 1;"); tell(x, 3, NONE, "heard 1 1;"); }
+    for (int k = 0; k < 3; k++) x.image(k);
+    for (int b = 0; b < 2; b++) for (int s = 0; s < 2; s++) x.work(b, s, true);
+    long kept = bytesMade() - before;
+    long then = bytesMade();
+    for (int i = 0; i < 30; i++) {
+      boolean f = i % 2 == 0;
+      int b = i % 2, s = i / 2 % 2;
+      x.image(i % 3); x.again(i % 3); x.feed(i, i, i, i, i); x.text(2, 0); x.end(0); x.fault(0); x.band(b, 10); x.note(s, 0, 0); x.treads(0); x.line(0, 0, 0); x.count(b);
+      x.played(b, s, 0, 11, 0); x.shift(b, s, 0, 2, NONE); x.cut(b, s, 0, f); x.work(b, s, f); x.blind(b, f); x.leather(b, 1); x.share(b, 0, f); x.duel(b, 4, f); x.mouse(b, 5, 9, f);
+      x.fits(b, s, 0, i % 3); x.drawn(b, s, i, 0); x.after(b, s, 0, i % 10); x.need(b, s, 0, i % 4); x.rank(b, s, 0, NONE); x.canon(b, s, 0, 3); x.odds(b, s, 5, f); x.mean(b, s, f);
+      x.dense(s, i % 5); x.like(0, 1); x.joined(b, 0); x.tour(b, NONE); x.centre(b, f); x.chord(b, 20, i % 3); x.leaves(b); x.toil(b, s, 0, i % 3); x.trodden(b, s, 0, 1, f);
+    }
+    long more = bytesMade() - then;
+    check(first < 20000, "a new object makes " + first + " bytes");
+    check(kept < 200000, "all that is kept is " + kept + " bytes");
+    check(more < 4000, "further calls make " + more + " bytes");
+  }
+
   public static void main(String[] args) throws Exception {
     face();
     source();
     nothingThrows();
+    room();
     System.out.println(wrong == 0 ? "the rules hold" : wrong + " rules are broken");
     if (wrong != 0) System.exit(1);
   }
